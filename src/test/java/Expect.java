@@ -1,0 +1,56 @@
+/** Counts and prints what is not as due; every test class ends with finish(). */
+final class Expect {
+    interface Call {
+        Object run();
+    }
+
+    private static int checked = 0;
+    private static int wrong = 0;
+
+    private Expect() {
+    }
+
+    static void same(String what, Object due, Object got) {
+        checked++;
+        if (!due.equals(got)) {
+            wrong++;
+            System.out.println(what + ": answered " + got + ", due is " + due);
+        }
+    }
+
+    static void throwing(String what, Class<? extends RuntimeException> due, Call call) {
+        same(what, due.getSimpleName(), answer(call));
+    }
+
+    static void noPlace(String what, Call call) {
+        throwing(what, IndexOutOfBoundsException.class, call);
+    }
+
+    static void badArgument(String what, Call call) {
+        throwing(what, IllegalArgumentException.class, call);
+    }
+
+    static void badState(String what, Call call) {
+        throwing(what, IllegalStateException.class, call);
+    }
+
+    /** The answer of a call, or the name of the exception that it throws. */
+    static Object answer(Call call) {
+        try {
+            return call.run();
+        } catch (RuntimeException e) {
+            return e.getClass().getSimpleName();
+        }
+    }
+
+    static boolean hasFailed() {
+        return wrong > 0;
+    }
+
+    static void finish(String name) {
+        System.out.println(name + ": " + checked + " checks, " + wrong + " wrong");
+        if (wrong > 0) {
+            System.exit(1);
+        }
+    }
+}
