@@ -22,6 +22,7 @@ public final class ChangeTest {
         outputByte();
         savedState();
         savedStateAndUndo();
+        savedStateAfterOtherChanges();
         Expect.finish("ChangeTest");
     }
 
@@ -369,6 +370,27 @@ public final class ChangeTest {
         Expect.same("51 replaces", 3, x.saveState());
         x.append(1, 3);
         Expect.same("52 the newer one", 3, x.restoreState());
+    }
+
+    private static void savedStateAfterOtherChanges() {
+        VectorVersions x = new VectorVersions();
+        x.append(0, 1);
+        x.set(1, 0, 9);
+        x.saveState();
+        x.undo();
+        x.undo();
+        x.truncate(0, 8);
+        x.truncate(0, 4);
+        Expect.same("52 before", false, x.isLeaf(4));
+        x.restoreState();
+        Expect.same("52 leaf again", true, x.isLeaf(4));
+        Expect.same("52 entries again", 3, x.entryCount(4));
+        Expect.same("52 parent again", 1, x.parentOf(2));
+        Expect.same("52 root again", 7, x.rootOf(2));
+        Expect.same("52 size again", 11, x.size(2));
+        Expect.same("52 created again", 2, x.nodesCreatedFor(2));
+        Expect.same("52 elements again", "[9,-2,7,7|0,12,3,1|9,4,1]", Texts.written(x, 2));
+        Expect.same("52 consistent", true, x.isConsistent());
     }
 
     private static void savedStateAndUndo() {

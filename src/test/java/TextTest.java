@@ -14,6 +14,7 @@ public final class TextTest {
         scriptErrors();
         scriptExecution();
         errorReports();
+        textsAfterUnfinishedOnes();
         Expect.finish("TextTest");
     }
 
@@ -315,6 +316,22 @@ public final class TextTest {
         Expect.same("5 ends before a 41st version", 9, Texts.run(z, "append 0 1;".repeat(12)));
         Expect.same("5 forty versions", 40, z.versionCount());
         Expect.same("5 release still goes", 2, Texts.run(z, "release 39;collect;truncate 0 0;"));
+    }
+
+    private static void textsAfterUnfinishedOnes() {
+        VectorVersions x = new VectorVersions();
+        Texts.run(x, "set 0 0 minus");
+        Expect.same("5 after a minus", 1, Texts.run(x, "append 0 5;"));
+        Expect.same("5 after a minus", 5, x.get(1, 10));
+        Texts.load(x, "list minus");
+        Expect.same("4 after a minus", 2, Texts.load(x, "list 1 2;"));
+        Expect.same("4 after a minus", "[1,2]", Texts.written(x, 0));
+        Texts.load(x, "list 8 9");
+        Expect.same("4 after a list", 1, Texts.load(x, "list 3;"));
+        Expect.same("4 after a list", "[3]", Texts.written(x, 0));
+        Texts.run(x, "append 0 7;append 0");
+        Expect.same("5 after a statement", 1, Texts.run(x, "append 0 4;"));
+        Expect.same("5 after a statement", "[3,4]", Texts.written(x, 1));
     }
 
     private static void errorReports() {
