@@ -6,15 +6,25 @@ final class Expect {
 
     private static int checked = 0;
     private static int wrong = 0;
+    private static String sentence = "";
 
     private Expect() {
+    }
+
+    /** What is not as due from now on is printed with this sentence before it. */
+    static void begin(String newSentence) {
+        sentence = newSentence;
+    }
+
+    static int checks() {
+        return checked;
     }
 
     static void same(String what, Object due, Object got) {
         checked++;
         if (!due.equals(got)) {
             wrong++;
-            System.out.println(what + ": answered " + got + ", due is " + due);
+            System.out.println(sentence + what + ": answered " + got + ", due is " + due);
         }
     }
 
@@ -32,6 +42,15 @@ final class Expect {
 
     static void badState(String what, Call call) {
         throwing(what, IllegalStateException.class, call);
+    }
+
+    static void nothingThere(String what, Call call) {
+        throwing(what, java.util.NoSuchElementException.class, call);
+    }
+
+    static void noException(String what, Call call) {
+        Object answer = answer(call);
+        same(what + " answered " + answer, false, answer.toString().endsWith("Exception"));
     }
 
     /** The answer of a call, or the name of the exception that it throws. */

@@ -50,8 +50,10 @@ final class Texts {
 
     static String output(VectorVersions x) {
         StringBuilder text = new StringBuilder();
-        for (int i = 0; x.outputByte(i) != VectorVersions.NONE; i++) {
-            text.append((char) x.outputByte(i));
+        int next = x.outputByte(0);
+        for (int i = 1; next != VectorVersions.NONE; i++) {
+            text.append((char) next);
+            next = x.outputByte(i);
         }
         return text.toString();
     }
