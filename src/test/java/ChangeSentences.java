@@ -445,11 +445,15 @@ final class ChangeSentences {
             x.undo();
             Expect.same("state " + i, states[i], Stores.everything(x));
         }
-        x.append(0, 1);
-        x.truncate(1, 0);
-        x.undo();
-        x.undo();
-        Expect.same("new ones too", states[0], Stores.everything(x));
+        VectorVersions y = new VectorVersions();
+        y.append(0, 1);
+        y.undo();
+        y.truncate(0, 5);
+        y.append(1, 2);
+        y.undo();
+        Expect.same("not the one that is undone already", 5, y.size(1));
+        y.undo();
+        Expect.same("all are undone", states[0], Stores.everything(y));
     }
 
     private static void restStays() {
@@ -673,6 +677,31 @@ final class ChangeSentences {
         y.restoreState();
         Expect.same("other versions had the numbers", before, Stores.everything(y));
         Expect.same("elements", "1 -2 7", Stores.elements(y, 2));
+        otherKindsOfNodes();
+    }
+
+    private static void otherKindsOfNodes() {
+        VectorVersions x = new VectorVersions();
+        x.append(0, 1);
+        x.set(1, 0, 9);
+        x.truncate(0, 3);
+        x.saveState();
+        String saved = Stores.everything(x);
+        x.undo();
+        x.undo();
+        x.undo();
+        x.truncate(0, 3);
+        x.truncate(1, 2);
+        x.append(2, -1);
+        x.set(3, 0, -2);
+        x.append(4, -3);
+        x.restoreState();
+        Expect.same("other kinds of nodes had the numbers", saved, Stores.everything(x));
+        Expect.same("leaf", true, x.isLeaf(4));
+        Expect.same("inner node", false, x.isLeaf(5));
+        Expect.same("parents", "0 1 0", x.parentOf(1) + " " + x.parentOf(2) + " " + x.parentOf(3));
+        Expect.same("elements", "9 -2 7 7 0 12 3 1 9 4 1", Stores.elements(x, 2));
+        Expect.same("invariants", true, x.isConsistent());
     }
 
     private static void noUndoAfterwards() {

@@ -202,8 +202,6 @@ final class ChangeTermSentences {
         return x;
     }
 
-    private static final List<Expect.Call> NO_CALLS = List.of();
-
     private static List<Expect.Call> refusedBy(VectorVersions x) {
         return List.of(() -> x.set(3, 0, 0), () -> x.set(1, 10, 0), () -> x.set(2, 0, 0), () -> x.set(1, 0, 1000),
             () -> x.set(0, 0, 0));
@@ -231,7 +229,7 @@ final class ChangeTermSentences {
 
     private static void refusedCalls() {
         VectorVersions a = someVersions();
-        refused("nothing is", a, NO_CALLS);
+        refused("nothing is", a, List.of());
         VectorVersions b = someVersions();
         refused("set is", b, refusedBy(b));
         VectorVersions c = someVersions();
@@ -352,6 +350,14 @@ final class ChangeTermSentences {
         VectorVersions y = new VectorVersions();
         Expect.same("in the other order", 2, Texts.run(y, "collect;release 0;append 0 1;"));
         Expect.same("released after collecting", 4, y.storedNodes());
+        for (String text : new String[] {"", "release 7;", "append 1 5;"}) {
+            VectorVersions z = new VectorVersions();
+            z.set(0, 0, 1);
+            z.release(0);
+            Texts.run(z, text);
+            Expect.same("nothing is collected by '" + text + "'", 2, z.garbageNodes());
+            Expect.same("nothing is released by '" + text + "'", z.versionCount() - 1, z.liveCount());
+        }
     }
 
     private static void ends(String what, VectorVersions x, String statement) {

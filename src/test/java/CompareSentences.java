@@ -475,8 +475,12 @@ final class CompareSentences {
         for (int i = 0; i < 39; i++) {
             int parent = Stores.latest(x);
             int size = x.size(parent);
-            int made = i % 3 == 0 ? x.set(parent, size - 1, i) : i % 3 == 1 ? x.append(parent, i) : x.truncate(parent, size - 1);
-            Expect.same("version " + made, true, x.isConsistent());
+            switch (i % 3) {
+                case 0 -> x.set(parent, size - 1, i);
+                case 1 -> x.append(parent, i);
+                default -> x.truncate(parent, size - 1);
+            }
+            Expect.same("version " + (i + 1), true, x.isConsistent());
         }
         Expect.same("undone", true, x.undo() == 7 && x.isConsistent());
         for (int version = 0; version < 39; version += 2) {

@@ -198,6 +198,22 @@ final class InputSentences {
         VectorVersions x = new VectorVersions();
         Texts.load(x, "?".repeat(600));
         Expect.same("full buffer", false, x.truncateInput(1));
+        afterUnfinishedTexts();
+    }
+
+    private static void afterUnfinishedTexts() {
+        for (String text : new String[] {"list", "list 8 9", "list minus", "set", "set 0 0 minus", "append 0 1;append 1"}) {
+            VectorVersions x = new VectorVersions();
+            x.truncate(0, 2);
+            Texts.load(x, text);
+            Texts.run(x, text);
+            Expect.same("script after '" + text + "'", 2, Texts.run(x, "append 1 4;append 2 3;"));
+            Expect.same("its elements", "5 -2 4 3", Stores.elements(x, 3));
+            Texts.run(x, text);
+            Texts.load(x, text);
+            Expect.same("setup after '" + text + "'", 2, Texts.load(x, "list 6 7;"));
+            Expect.same("its elements", "6 7", Stores.elements(x, 0));
+        }
     }
 
     private static VectorVersions changed() {

@@ -88,12 +88,13 @@ final class Stores {
         return all.toString();
     }
 
-    /** How many changes can be undone; undoes them. */
+    /** How many changes can be undone, as far as 20; undoes them. */
     static int undoAll(VectorVersions x) {
-        int undone = 0;
-        while (!(Expect.answer(x::undo) instanceof String)) {
-            undone++;
+        for (int undone = 0; undone < 20; undone++) {
+            if (Expect.answer(x::undo) instanceof String) {
+                return undone;
+            }
         }
-        return undone;
+        return 20;
     }
 }

@@ -18,7 +18,8 @@ final class TextSentences {
 
     private static void setups(Sentences s) {
         s.hold(TERMS, "The input buffer holds at most 600 bytes.", TextSentences::sixHundredBytes);
-        s.hold(TERMS, "A setup consists of statements; each statement ends with a semicolon:", TextSentences::setupStatements);
+        s.hold(TERMS, "A setup consists of statements; each statement ends with a semicolon:",
+            TextSentences::setupStatements);
         s.hold(TERMS, "list { VALUE }", TextSentences::listForm);
         s.hold(TERMS, "VALUE is a number of 0 to 999, or the word minus and such a number.", TextSentences::values);
         s.hold(TERMS, "The braces mean that the value can be missing and can be repeated.", TextSentences::braces);
@@ -269,10 +270,56 @@ final class TextSentences {
                 badScript("" + (char) value, SYNTAX, 0);
             }
         }
-        setup("list 1 ;", "1");
+        bytesBehindWordsAndNumbers();
+    }
+
+    private static void bytesBehindWordsAndNumbers() {
+        for (int value = 0; value < 256; value++) {
+            String sign = "" + (char) value;
+            boolean letter = value >= 'a' && value <= 'z';
+            boolean digit = value >= '0' && value <= '9';
+            boolean blank = value == 32 || value == 10;
+            if (digit) {
+                setup("list" + sign + ";", sign);
+                setup("list 1" + sign + ";", "1" + sign);
+            } else if (blank) {
+                setup("list" + sign + ";", "");
+                setup("list 1" + sign + ";", "1");
+            } else {
+                badSetup("list" + sign + ";", SYNTAX, letter ? 0 : value == ';' ? 5 : 4);
+                badSetup("list 1" + sign + ";", SYNTAX, value == ';' ? 7 : 6);
+            }
+        }
     }
 
     private static void words() {
+        otherLetters("list", ";");
+        otherLetters("set", " 0 0 0;");
+        otherLetters("append", " 0 0;");
+        otherLetters("truncate", " 0 0;");
+        otherLetters("release", " 0;");
+        otherLetters("collect", ";");
+        for (int i = 0; i < 5; i++) {
+            badSetup("list " + withOtherLetter("minus", i) + " 1;", SYNTAX, 5);
+        }
+        lengthsOfWords();
+    }
+
+    private static String withOtherLetter(String word, int place) {
+        char other = word.charAt(place) == 'a' ? 'z' : (char) (word.charAt(place) - 1);
+        return word.substring(0, place) + other + word.substring(place + 1);
+    }
+
+    private static void otherLetters(String word, String rest) {
+        for (int i = 0; i < word.length(); i++) {
+            badSetup(withOtherLetter(word, i) + rest, SYNTAX, 0);
+            badScript(withOtherLetter(word, i) + rest, SYNTAX, 0);
+        }
+        badSetup(word.substring(1) + rest, SYNTAX, 0);
+        badScript(word.substring(1) + rest, SYNTAX, 0);
+    }
+
+    private static void lengthsOfWords() {
         script("truncate 0 5;", 1);
         badScript("truncates 0 5;", SYNTAX, 0);
         badScript("truncat 0 5;", SYNTAX, 0);

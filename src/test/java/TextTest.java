@@ -320,9 +320,10 @@ public final class TextTest {
 
     private static void textsAfterUnfinishedOnes() {
         VectorVersions x = new VectorVersions();
+        x.truncate(0, 10);
         Texts.run(x, "set 0 0 minus");
-        Expect.same("5 after a minus", 1, Texts.run(x, "append 0 5;"));
-        Expect.same("5 after a minus", 5, x.get(1, 10));
+        Expect.same("5 after a minus", 1, Texts.run(x, "append 1 5;"));
+        Expect.same("5 after a minus", 5, x.get(2, 10));
         Texts.load(x, "list minus");
         Expect.same("4 after a minus", 2, Texts.load(x, "list 1 2;"));
         Expect.same("4 after a minus", "[1,2]", Texts.written(x, 0));

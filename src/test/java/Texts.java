@@ -51,7 +51,7 @@ final class Texts {
     static String output(VectorVersions x) {
         StringBuilder text = new StringBuilder();
         int next = x.outputByte(0);
-        for (int i = 1; next != VectorVersions.NONE; i++) {
+        for (int i = 1; next != VectorVersions.NONE && i < 400; i++) {
             text.append((char) next);
             next = x.outputByte(i);
         }

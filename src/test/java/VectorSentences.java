@@ -29,7 +29,8 @@ final class VectorSentences {
         s.hold(TERMS, "All leaves of a tree have the same depth.", VectorSentences::depths);
         s.hold(TERMS, "From left to right, the leaves hold the elements in order, and every node except those on the path "
             + "to the last element is full: it has 4 entries, and so have all nodes below it.", VectorSentences::fullNodes);
-        s.hold(TERMS, "The height is the number of nodes on a path from the root to a leaf.", VectorSentences::heightIsDepth);
+        s.hold(TERMS, "The height is the number of nodes on a path from the root to a leaf.",
+            VectorSentences::heightIsDepth);
         s.hold(TERMS, "It is the smallest height h with which the tree can hold the elements: 4 to the power of h is at "
             + "least the size.", VectorSentences::smallestHeight);
         s.hold(TERMS, "The empty vector has no node, and its height is 0.", VectorSentences::emptyVector);
@@ -52,7 +53,8 @@ final class VectorSentences {
     }
 
     private static void pathCopying(Sentences s) {
-        s.hold(TERMS, "A new version uses all nodes of its parent that it can use as they are.", VectorSentences::usedNodes);
+        s.hold(TERMS, "A new version uses all nodes of its parent that it can use as they are.",
+            VectorSentences::usedNodes);
         s.hold(TERMS, "The new nodes of a version are created from the leaf up to the root.", VectorSentences::leafFirst);
         s.hold(TERMS, "Setting an element to the value that it has creates no node; the new version has the same root.",
             VectorSentences::sameValue);
@@ -253,6 +255,33 @@ final class VectorSentences {
         x.collect();
         Expect.badState("41st, although 39 are released", () -> x.append(0, 1));
         Expect.same("still forty", 40, x.versionCount());
+        fortyVersionsWithMostNodes();
+    }
+
+    private static void fortyVersionsWithMostNodes() {
+        VectorVersions x = Stores.counting(64);
+        for (int i = 1; i < 40; i++) {
+            x.set(i - 1, 63, 500 + i);
+        }
+        Expect.same("three nodes each", 21 + 39 * 3, x.createdNodes());
+        Expect.same("last root", 137, x.rootOf(39));
+        Expect.same("children of the last root", "16 17 18 136",
+            x.childOf(137, 0) + " " + x.childOf(137, 1) + " " + x.childOf(137, 2) + " " + x.childOf(137, 3));
+        Expect.same("entries of the last root", 4, x.entryCount(137));
+        Expect.same("last element of the last version", 539, x.get(39, 63));
+        Expect.same("first element of the last version", 0, x.get(39, 0));
+        Expect.same("all are garbage", 138, releaseAll(x));
+        Expect.same("all are collected", 138, x.collect());
+        x.undo();
+        Expect.same("collecting is undone", 138, x.storedNodes());
+    }
+
+    private static int releaseAll(VectorVersions x) {
+        int garbage = 0;
+        for (int version = 0; version < x.versionCount(); version++) {
+            garbage = x.release(version);
+        }
+        return garbage;
     }
 
     private static void versionOfSetup() {
